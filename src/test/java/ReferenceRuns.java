@@ -8,7 +8,7 @@ import java.util.TreeSet;
 /** Drawn runs of calls, each answer compared with that of a slow model written straight from the document. */
 public final class ReferenceRuns {
     private static final int RUNS = 240;
-    private static final int CALLS = 512;
+    private static final int CALLS = 360;
     private static int wrong = 0;
 
     public static void main(String[] args) {
@@ -26,11 +26,45 @@ public final class ReferenceRuns {
         SafetyTrees real = new SafetyTrees();
         Model model = new Model();
         int mostEvents = 2 + seed % 11;
+        if (seed % 3 == 0) {
+            mostEvents = 12;
+            growWide(random, real, model);
+        }
         for (int call = 0; call < CALLS && wrong < 20; call++) {
             String text = call(random, real, model, mostEvents);
             if (text != null) {
                 wrong++;
                 System.out.println("seed " + seed + ", call " + call + ": " + text);
+            }
+        }
+    }
+
+    /** All 12 events, some common causes and large gates over them, so that bounds and many cuts are drawn too. */
+    private static void growWide(Random r, SafetyTrees real, Model model) {
+        while (model.eventCount() < 12) {
+            long down = 1 + r.nextInt(10);
+            long up = r.nextInt((int) down + 1);
+            real.event(up, down);
+            model.event(up, down);
+            if (r.nextInt(4) == 0) {
+                real.gate(1, 0);
+                model.gate(1, 0);
+            }
+        }
+        for (int tries = r.nextInt(30); tries > 0; tries--) {
+            int event = anyNode(r, model);
+            int other = anyNode(r, model);
+            real.common(event, other, tries % 3, 10);
+            model.common(event, other, tries % 3, 10);
+        }
+        for (int i = 0; i < 6; i++) {
+            int n = 1 + r.nextInt(6);
+            real.gate(2, n);
+            int gate = model.gate(2, n);
+            for (int k = 0; k < 14; k++) {
+                int of = 1 + r.nextInt(model.nodes.size());
+                real.below(gate, of);
+                model.below(gate, of);
             }
         }
     }
