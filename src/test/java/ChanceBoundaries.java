@@ -17,6 +17,7 @@ public final class ChanceBoundaries extends Checks {
         sentence("EVENTS UNDER it count, whatever their chance", ChanceBoundaries::whatCountsForExact);
 
         sentence("bound of an EVENT: together, 2520 at most", ChanceBoundaries::boundOfAnEvent);
+        sentence("bound of an EVENT: its causes, whichever other EVENT they have", ChanceBoundaries::boundOfEventsBeside);
         sentence("bound of AND: the least BELOW (2520 of none)", ChanceBoundaries::boundOfAnd);
         sentence("bound of OR: all BELOW together, 2520 at most", ChanceBoundaries::boundOfOr);
         sentence("bound of VOTES: divided by n, upwards", ChanceBoundaries::boundOfVotes);
@@ -263,17 +264,39 @@ public final class ChanceBoundaries extends Checks {
         dueEventBound("just 2520", 1, 2, new long[][] {{1, 3}, {1, 6}, {0, 1}}, 2520);
         dueEventBound("2772 are 2520", 1, 2, new long[][] {{1, 2}, {1, 10}, {0, 1}}, 2520);
         dueEventBound("5 times all are 2520", 1, 1, new long[][] {{1, 1}, {9, 9}, {10, 10}, {1, 1}}, 2520);
-        SafetyTrees both = ofTwelve(1, 10);
-        both.common(11, 12, 1, 2);
-        both.common(12, 11, 1, 4);
-        both.common(1, 12, 0, 1);
-        int top = gateOverAll(both, OR, 1, 12);
-        dueParts("both events of a cause: 12 * 252 + 2 * 1890 are 2520", both, top, 2520);
-        SafetyTrees seen = ofTwelve(0, 1);
-        seen.common(11, 12, 1, 10);
-        seen.common(12, 1, 1, 9);
-        seen.common(2, 3, 0, 1);
-        dueParts("252 + 532 + 280", seen, gateOverAll(seen, OR, 1, 12), 1064);
+        dueHalfOfEventBound("2519 by 2", 1, 5, new long[][] {{2, 7}, {1, 6}, {1, 8}, {2, 9}}, 1260);
+        dueHalfOfEventBound("2520 by 2", 1, 2, new long[][] {{1, 3}, {1, 6}, {0, 1}}, 1260);
+        dueHalfOfEventBound("2520 for 2772, by 2", 1, 2, new long[][] {{1, 2}, {1, 10}, {0, 1}}, 1260);
+        dueHalfOfEventBound("2520 for 5 times all, by 2", 1, 1, new long[][] {{1, 1}, {1, 1}, {1, 1}, {1, 1}}, 1260);
+    }
+
+    /** Above a VOTES of 2 it shows whether an event is 2520 at most: an AND alone is never more. */
+    private static void dueHalfOfEventBound(String what, long up, long down, long[][] causes, long parts) {
+        SafetyTrees x = new SafetyTrees();
+        x.event(up, down);
+        for (int i = 2; i <= 12; i++) {
+            x.event(1, 1);
+        }
+        int others = gateOverAll(x, AND, 2, 12);
+        int half = gateOver(x, VOTES, 2, 1);
+        for (long[] cause : causes) {
+            x.common(1, 2, cause[0], cause[1]);
+        }
+        dueParts(what, x, gateOver(x, AND, 0, half, others), parts);
+    }
+
+    private static void boundOfEventsBeside() {
+        SafetyTrees all = ofTwelve(0, 1);
+        all.common(11, 12, 1, 10);
+        all.common(12, 1, 1, 9);
+        all.common(2, 3, 0, 1);
+        dueParts("252 + 532 + 280", all, gateOverAll(all, OR, 1, 12), 1064);
+        SafetyTrees eleven = ofTwelve(0, 1);
+        eleven.common(1, 12, 1, 10);
+        eleven.common(12, 2, 1, 9);
+        eleven.common(12, 11, 1, 8);
+        eleven.common(1, 2, 0, 1);
+        dueParts("252 + 280 + 315, their other event is not UNDER", eleven, gateOverAll(eleven, OR, 1, 11), 847);
     }
 
     private static void boundOfAnd() {
@@ -315,6 +338,7 @@ public final class ChanceBoundaries extends Checks {
         dueBound("280 by 9, rest 1", new long[][] {{1, 9}}, VOTES, 9, 32);
         dueBound("315 by 4, rest 3", new long[][] {{1, 8}}, VOTES, 4, 79);
         dueBound("nothing by 10", new long[][] {{0, 8}}, VOTES, 10, 0);
+        dueBound("VOTES of none", new long[][] {}, VOTES, 1, 0);
         for (int n = 1; n <= 10; n++) {
             dueBound("2519 by " + n, JUST_BELOW_ONE, VOTES, n, n == 1 ? 2519 : 2520 / n);
             dueBound("2520 by " + n, new long[][] {{1, 2}, {1, 2}}, VOTES, n, 2520 / n);
@@ -336,6 +360,17 @@ public final class ChanceBoundaries extends Checks {
         dueBound("10 that are sure by 9", ten, VOTES, 9, 2520);
         ten[9] = new long[] {0, 1};
         dueBound("9 that are sure by 10", ten, VOTES, 10, 2268);
+        SafetyTrees x = ofTwelve(1, 1);
+        for (int i = 0; i < 3; i++) {
+            x.common(1, 2, 0, 1);
+        }
+        int all = gateOverAll(x, AND, 1, 12);
+        int much = gateOver(x, VOTES, 1, all, 1, 2);
+        dueParts("7560 by 1, on top", x, much, 2520);
+        dueParts("7560 by 2, on top", x, gateOver(x, VOTES, 2, all, 1, 2), 2520);
+        dueParts("7560 by 3, on top", x, gateOver(x, VOTES, 3, all, 1, 2), 2520);
+        dueParts("7560 by 4, on top", x, gateOver(x, VOTES, 4, all, 1, 2), 1890);
+        dueParts("2520 at most before it is divided again", x, gateOver(x, VOTES, 2, much), 1260);
     }
 
     private static void boundOfSharedNodes() {

@@ -354,44 +354,28 @@ public final class GoalBoundaries extends Checks {
         due("no more then", x.open(78), 0);
     }
 
-    /** Any other exception goes through and is told as wrong. */
-    private static void dueNoShare(String what, SafetyTrees x, int part, int side) {
-        boolean thrown = false;
-        try {
-            x.cover(part, side);
-        } catch (ArithmeticException e) {
-            thrown = e.getClass() == ArithmeticException.class;
-        }
-        due(what + ": cover(" + part + ", " + side + ") throws", thrown ? 1 : 0, 1);
-    }
-
-    private static void dueShare(String what, SafetyTrees x, int part, long above, long beneath) {
-        due(what + ": cover above", x.cover(part, 0), above);
-        due(what + ": cover beneath", x.cover(part, 1), beneath);
-    }
-
     private static void partsWithoutRows() {
         SafetyTrees x = new SafetyTrees();
-        dueNoShare("new", x, 1, 0);
+        dueNoCover("new", x, 1, 0);
         x.goal(1);
-        dueNoShare("no rows", x, 1, 1);
-        dueNoShare("no rows", x, 0, 0);
+        dueNoCover("no rows", x, 1, 1);
+        dueNoCover("no rows", x, 0, 0);
         x.trace(1, 2, 0);
         x.trace(1, 49, 1);
-        dueNoShare("one before part 2", x, 1, 0);
-        dueNoShare("one after part 2", x, 3, 1);
-        dueNoShare("one after part 49", x, 50, 0);
+        dueNoCover("one before part 2", x, 1, 0);
+        dueNoCover("one after part 2", x, 3, 1);
+        dueNoCover("one after part 49", x, 50, 0);
         for (int part : noneOf(50)) {
-            dueNoShare("no such part", x, part, 0);
-            dueNoShare("no such part", x, part, 1);
+            dueNoCover("no such part", x, part, 0);
+            dueNoCover("no such part", x, part, 1);
         }
-        dueNoShare("thrown again", x, 1, 0);
-        dueShare("part 2", x, 2, 0, 1);
-        dueShare("part 49", x, 49, 1, 1);
+        dueNoCover("thrown again", x, 1, 0);
+        dueCover("part 2", x, 2, 0, 1);
+        dueCover("part 49", x, 49, 1, 1);
         due("a refused row", x.trace(1, 1, 51), -2);
-        dueNoShare("after a refused row", x, 1, 0);
+        dueNoCover("after a refused row", x, 1, 0);
         due("a row", x.trace(1, 1, 0), 3);
-        dueShare("part 1 now", x, 1, 0, 1);
+        dueCover("part 1 now", x, 1, 0, 1);
     }
 
     private static void sidesOfAShare() {
@@ -409,23 +393,23 @@ public final class GoalBoundaries extends Checks {
     private static void lowestTermsOfShares() {
         SafetyTrees x = withGoals(4);
         x.trace(1, 50, 0);
-        dueShare("0 of 1", x, 50, 0, 1);
+        dueCover("0 of 1", x, 50, 0, 1);
         x.trace(2, 50, 0);
         x.trace(3, 50, 0);
-        dueShare("0 of 3", x, 50, 0, 1);
+        dueCover("0 of 3", x, 50, 0, 1);
         x.trace(4, 50, 1);
-        dueShare("1 of 4", x, 50, 1, 4);
+        dueCover("1 of 4", x, 50, 1, 4);
         x.trace(4, 50, 2);
         x.trace(3, 50, 1);
-        dueShare("3 of 6", x, 50, 1, 2);
+        dueCover("3 of 6", x, 50, 1, 2);
         x.trace(2, 50, 1);
         x.trace(1, 50, 1);
         x.trace(1, 50, 50);
-        dueShare("6 of 9", x, 50, 2, 3);
+        dueCover("6 of 9", x, 50, 2, 3);
         x.trace(1, 1, 1);
         x.trace(2, 1, 1);
-        dueShare("2 of 2", x, 1, 1, 1);
-        dueShare("others do not count", x, 50, 2, 3);
+        dueCover("2 of 2", x, 1, 1, 1);
+        dueCover("others do not count", x, 50, 2, 3);
     }
 
     private static void allRowsOfAPart() {
@@ -434,20 +418,20 @@ public final class GoalBoundaries extends Checks {
             x.trace(1, 25, test);
             x.trace(2, 25, test);
         }
-        dueShare("98 of 98", x, 25, 1, 1);
+        dueCover("98 of 98", x, 25, 1, 1);
         due("row 99", x.trace(3, 25, 50), 99);
         due("row 100", x.trace(3, 25, 0), 100);
-        dueShare("99 of 100", x, 25, 99, 100);
+        dueCover("99 of 100", x, 25, 99, 100);
         due("row 101", x.trace(2, 25, 0), -4);
-        dueShare("99 of 100 still", x, 25, 99, 100);
+        dueCover("99 of 100 still", x, 25, 99, 100);
         SafetyTrees none = withGoals(30);
         for (int goal = 1; goal <= 30; goal++) {
             none.trace(goal, 1, 0);
         }
-        dueShare("0 of 30", none, 1, 0, 1);
+        dueCover("0 of 30", none, 1, 0, 1);
         for (int goal = 1; goal <= 20; goal++) {
             none.trace(goal, 1, goal);
         }
-        dueShare("20 of 50", none, 1, 2, 5);
+        dueCover("20 of 50", none, 1, 2, 5);
     }
 }

@@ -1,97 +1,41 @@
 /** Each promise of the document: ordinary inputs, the edges that it names, and wrong inputs. */
-public final class PromiseTests {
-    private static final int AND = 0;
-    private static final int OR = 1;
-    private static final int VOTES = 2;
-    private static int wrong = 0;
-
+public final class PromiseTests extends Checks {
     public static void main(String[] args) {
-        newObjectHoldsNothing();
-        eventIsNumberedOrRefused();
-        eventRefusalsInOrder();
-        gateIsNumberedOrRefused();
-        gateRefusalsInOrder();
-        belowJoinsNodes();
-        belowRefusesRings();
-        belowRefusalsInOrder();
-        cutsAreMinimalAndInOrder();
-        cutsKeepToSteps();
-        cutsOfEmptyGates();
-        cutsOfMostKinds();
-        cutAnswersOnlyWhatIsThere();
-        cutsToldStayAsTheyWere();
-        chanceIsExactAndLowest();
-        chanceSharesEvents();
-        chanceWithCommonCauses();
-        chanceAtTheExactLimit();
-        chanceAsABound();
-        boundOfEachKind();
-        exactTellsOfTheLastGate();
-        commonIsCountedOrRefused();
-        gradeGivesTheClass();
-        goalIsNumberedOrRefused();
-        traceIsCountedOrRefused();
-        traceRefusalsInOrder();
-        openListsGoalsThenParts();
-        coverIsAShare();
-        plainCountsSets();
-        System.out.println(wrong == 0 ? "all promises hold" : wrong + " answers are not as due");
-        if (wrong != 0) {
-            System.exit(1);
-        }
-    }
-
-    private static void due(String what, long got, long want) {
-        if (got != want) {
-            wrong++;
-            System.out.println(what + " answered " + got + ", due is " + want);
-        }
+        sentence("Promise 1: new object holds nothing", PromiseTests::newObjectHoldsNothing);
+        sentence("Promise 2: event is numbered or refused", PromiseTests::eventIsNumberedOrRefused);
+        sentence("Promise 2: event refusals in order", PromiseTests::eventRefusalsInOrder);
+        sentence("Promise 3: gate is numbered or refused", PromiseTests::gateIsNumberedOrRefused);
+        sentence("Promise 3: gate refusals in order", PromiseTests::gateRefusalsInOrder);
+        sentence("Promise 4: below joins nodes", PromiseTests::belowJoinsNodes);
+        sentence("Promise 4: below refuses rings", PromiseTests::belowRefusesRings);
+        sentence("Promise 4: below refusals in order", PromiseTests::belowRefusalsInOrder);
+        sentence("Promise 5: cuts are minimal and in order", PromiseTests::cutsAreMinimalAndInOrder);
+        sentence("Promise 5: cuts keep to steps", PromiseTests::cutsKeepToSteps);
+        sentence("Promise 5: cuts of empty gates", PromiseTests::cutsOfEmptyGates);
+        sentence("Promise 5: cuts of most kinds", PromiseTests::cutsOfMostKinds);
+        sentence("Promise 6: cut answers only what is there", PromiseTests::cutAnswersOnlyWhatIsThere);
+        sentence("Promise 5: cuts told stay as they were", PromiseTests::cutsToldStayAsTheyWere);
+        sentence("Promise 7: chance is exact and lowest", PromiseTests::chanceIsExactAndLowest);
+        sentence("Promise 7: chance shares events", PromiseTests::chanceSharesEvents);
+        sentence("Promise 7: chance with common causes", PromiseTests::chanceWithCommonCauses);
+        sentence("Promise 7: chance at the exact limit", PromiseTests::chanceAtTheExactLimit);
+        sentence("Promise 7: chance as a bound", PromiseTests::chanceAsABound);
+        sentence("Promise 7: bound of each kind", PromiseTests::boundOfEachKind);
+        sentence("Promise 8: exact tells of the last gate", PromiseTests::exactTellsOfTheLastGate);
+        sentence("Promise 9: common is counted or refused", PromiseTests::commonIsCountedOrRefused);
+        sentence("Promise 10: grade gives the class", PromiseTests::gradeGivesTheClass);
+        sentence("Promise 11: goal is numbered or refused", PromiseTests::goalIsNumberedOrRefused);
+        sentence("Promise 12: trace is counted or refused", PromiseTests::traceIsCountedOrRefused);
+        sentence("Promise 12: trace refusals in order", PromiseTests::traceRefusalsInOrder);
+        sentence("Promise 13: open lists goals then parts", PromiseTests::openListsGoalsThenParts);
+        sentence("Promise 14: cover is a share", PromiseTests::coverIsAShare);
+        sentence("Promise 15: plain counts sets", PromiseTests::plainCountsSets);
+        end();
     }
 
     private static void dueChance(String what, SafetyTrees x, int gate, long above, long beneath, boolean exact) {
-        due(what + ", above", x.chance(gate, 0), above);
-        due(what + ", beneath", x.chance(gate, 1), beneath);
-        due(what + ", exact", x.exact() ? 1 : 0, exact ? 1 : 0);
-    }
-
-    private static void dueCut(String what, SafetyTrees x, int i, int... events) {
-        for (int k = 0; k < events.length; k++) {
-            due(what + ", cut " + i + " place " + k, x.cut(i, k), events[k]);
-        }
-        due(what + ", cut " + i + " ends", x.cut(i, events.length), 0);
-    }
-
-    private static void dueCover(String what, SafetyTrees x, int part, long above, long beneath) {
-        due(what + ", above", x.cover(part, 0), above);
-        due(what + ", beneath", x.cover(part, 1), beneath);
-        due(what + ", any other side", x.cover(part, -5), beneath);
-    }
-
-    private static void dueNoCover(SafetyTrees x, int part) {
-        int thrown = 0;
-        try {
-            x.cover(part, 0);
-        } catch (ArithmeticException e) {
-            thrown = 1;
-        }
-        due("cover(" + part + ") throws", thrown, 1);
-    }
-
-    /** Events 1 .. count, each with the chance 1 / 2. */
-    private static SafetyTrees withEvents(int count) {
-        SafetyTrees x = new SafetyTrees();
-        for (int i = 1; i <= count; i++) {
-            due("event " + i, x.event(1, 2), i);
-        }
-        return x;
-    }
-
-    private static int gateOver(SafetyTrees x, int kind, int n, int... below) {
-        int gate = x.gate(kind, n);
-        for (int node : below) {
-            due("below(" + gate + ", " + node + ")", x.below(gate, node), 1);
-        }
-        return gate;
+        dueChance(what, x, gate, above, beneath);
+        dueExact(what, x, exact);
     }
 
     private static void newObjectHoldsNothing() {
@@ -106,7 +50,7 @@ public final class PromiseTests {
         due("new: trace", x.trace(1, 1, 1), -1);
         due("new: open", x.open(0), 0);
         due("new: plain", x.plain(1), -2);
-        dueNoCover(x, 1);
+        dueNoCover("no rows", x, 1, 0);
         due("new: first event", x.event(1, 2), 1);
         due("new: first goal", x.goal(0), 1);
         due("another object: first event", new SafetyTrees().event(1, 2), 1);
@@ -605,7 +549,7 @@ public final class PromiseTests {
         SafetyTrees x = new SafetyTrees();
         x.goal(1);
         x.goal(0);
-        dueNoCover(x, 7);
+        dueNoCover("no rows", x, 7, 0);
         x.trace(1, 7, 0);
         dueCover("0 of 1", x, 7, 0, 1);
         x.trace(2, 7, 0);
@@ -616,11 +560,11 @@ public final class PromiseTests {
         dueCover("2 of 4", x, 7, 1, 2);
         x.trace(2, 8, 50);
         dueCover("1 of 1", x, 8, 1, 1);
-        dueNoCover(x, 6);
-        dueNoCover(x, 0);
-        dueNoCover(x, -7);
-        dueNoCover(x, 51);
-        dueNoCover(x, Integer.MAX_VALUE);
+        dueNoCover("no rows", x, 6, 0);
+        dueNoCover("no rows", x, 0, 0);
+        dueNoCover("no rows", x, -7, 0);
+        dueNoCover("no rows", x, 51, 0);
+        dueNoCover("no rows", x, Integer.MAX_VALUE, 0);
         dueCover("as before", x, 7, 1, 2);
     }
 

@@ -52,6 +52,7 @@ public final class RefusalBoundaries extends Checks {
         x.common(1, 3, 1, 4);
         x.goal(0);
         x.goal(2);
+        x.goal(3);
         x.trace(1, 9, 0);
         x.trace(2, 9, 4);
         x.trace(2, 5, 0);
@@ -77,13 +78,14 @@ public final class RefusalBoundaries extends Checks {
         return x;
     }
 
+    /** 30 goals, the last of which is open, and 100 rows. */
     private static SafetyTrees fullGoals() {
         SafetyTrees x = new SafetyTrees();
         for (int goal = 1; goal <= 30; goal++) {
-            due("goal " + goal, x.goal(goal % 5), goal);
+            due("goal " + goal, x.goal((goal + 1) % 5), goal);
         }
         for (int row = 1; row <= 100; row++) {
-            due("row " + row, x.trace(1 + row % 30, 1 + row % 50, row <= 50 ? 0 : row % 3), row);
+            due("row " + row, x.trace(1 + row % 28, 1 + row % 50, row <= 50 ? 0 : row % 3), row);
         }
         return x;
     }
@@ -142,7 +144,7 @@ public final class RefusalBoundaries extends Checks {
         add(list, "common(1, 2, 1, 11)", -2, x -> x.common(1, 2, 1, 11));
         add(list, "common(1, 2, -1, 2)", -2, x -> x.common(1, 2, -1, 2));
         add(list, "common(1, 2, 3, 2)", -2, x -> x.common(1, 2, 3, 2));
-        add(list, "trace(3, 1, 1)", -1, x -> x.trace(3, 1, 1));
+        add(list, "trace(4, 1, 1)", -1, x -> x.trace(4, 1, 1));
         add(list, "trace(2, 0, 1)", -2, x -> x.trace(2, 0, 1));
         add(list, "trace(2, 51, 1)", -2, x -> x.trace(2, 51, 1));
         add(list, "trace(2, 1, -1)", -2, x -> x.trace(2, 1, -1));

@@ -1,4 +1,4 @@
-/** What the tests of boundaries share: sentences of the document, each with its checks, and small trees. */
+/** What the tests of promises and boundaries share: sentences, each with its checks, and small trees. */
 abstract class Checks {
     static final int AND = 0;
     static final int OR = 1;
@@ -61,6 +61,22 @@ abstract class Checks {
     static void dueNoneTold(String what, SafetyTrees x) {
         due(what + ": cut(0, 0)", x.cut(0, 0), 0);
         due(what + ": cut(1, 0)", x.cut(1, 0), 0);
+    }
+
+    static void dueCover(String what, SafetyTrees x, int part, long above, long beneath) {
+        due(what + ": cover above", x.cover(part, 0), above);
+        due(what + ": cover beneath", x.cover(part, 1), beneath);
+    }
+
+    /** Any other exception goes through and is told as wrong. */
+    static void dueNoCover(String what, SafetyTrees x, int part, int side) {
+        boolean thrown = false;
+        try {
+            x.cover(part, side);
+        } catch (ArithmeticException e) {
+            thrown = e.getClass() == ArithmeticException.class;
+        }
+        due(what + ": cover(" + part + ", " + side + ") throws", thrown ? 1 : 0, 1);
     }
 
     /** Events 1 .. count, each with the chance 1 / 2. */
